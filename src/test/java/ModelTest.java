@@ -42,8 +42,30 @@ public final class ModelTest {
         return Arrays.stream(from.getDeclaredMethods()).filter(m -> m.getName().equals(name)).findFirst().orElseThrow();
     }
 
+    /** Two machines with all their steps at random, so that many orbits are met: how many calls that took. */
+    private int fill() {
+        int calls = 0;
+        for (int m = 0; m < 2; m++) {
+            int n = 2 + random.nextInt(5);
+            int k = random.nextInt(3);
+            real.machine(n, k);
+            model.machine(n, k);
+            for (int at = 0; at < n * 9; at++) {
+                int to = random.nextInt(n);
+                int keep = random.nextInt(k + 1) == k ? NameRows.NONE : random.nextInt(Math.max(k, 1));
+                real.step(m, at / 9, at / 3 % 3, at % 3, to, keep);
+                model.step(m, at / 9, at / 3 % 3, at % 3, to, keep);
+            }
+            int good = random.nextInt(n);
+            real.good(m, good, true);
+            model.good(m, good, true);
+            calls += n * 9 + 2;
+        }
+        return calls;
+    }
+
     private void go(int run, List<Method[]> methods) throws ReflectiveOperationException {
-        for (int i = 0; i < CALLS; i++) {
+        for (int i = run % 2 == 0 ? 0 : fill(); i < CALLS; i++) {
             Method[] pair = methods.get(random.nextInt(methods.size()));
             Object[] given = given(pair[0]);
             int got = (Integer) pair[0].invoke(real, given);
