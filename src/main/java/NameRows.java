@@ -89,13 +89,17 @@ public final class NameRows {
 
     public int step(int m, int s, int letter, int which, int to, int keep) {
         Machine told = machineAt(m);
-        if (told == null || !told.hasStep(s, letter, which) || !told.hasState(to) || !told.canKeep(keep)) {
+        if (told == null || !told.hasState(to) || !told.canKeep(keep)) {
+            return BAD;
+        }
+        int at = told.stepAt(s, letter, which);
+        if (at < 0) {
             return BAD;
         }
         if (told.watched) {
             return STATE;
         }
-        told.setStep(s, letter, which, to, keep);
+        told.setStep(at, to, keep);
         machinesChanged();
         return 1;
     }
@@ -133,10 +137,14 @@ public final class NameRows {
 
     public int stepOf(int m, int s, int letter, int which, int what) {
         Machine asked = machineAt(m);
-        if (asked == null || !asked.hasStep(s, letter, which) || what < 0 || what > 1) {
+        if (asked == null || what < 0 || what > 1) {
             return BAD;
         }
-        return what == 0 ? asked.nextState(s, letter, which) : asked.keptIn(s, letter, which);
+        int at = asked.stepAt(s, letter, which);
+        if (at < 0) {
+            return BAD;
+        }
+        return what == 0 ? asked.next[at] : asked.keep[at];
     }
 
     public int drop() {
@@ -557,8 +565,8 @@ public final class NameRows {
         static final int PATTERNS = 6;
         static final int LIVES = 1, DOOMED = 2;
 
-        private final int[] next = new int[STATES * LETTERS * CASES];
-        private final int[] keep = new int[STATES * LETTERS * CASES];
+        final int[] next = new int[STATES * LETTERS * CASES];
+        final int[] keep = new int[STATES * LETTERS * CASES];
         private final boolean[] goodOnes = new boolean[STATES];
         int states = 1;
         int registers = 0;
@@ -599,26 +607,19 @@ public final class NameRows {
             return s >= 0 && s < states;
         }
 
-        boolean hasStep(int s, int letter, int which) {
+        /** Where a step stands in next and keep; NONE: there is no such step. */
+        int stepAt(int s, int letter, int which) {
             boolean hasCase = which == OTHER_CASE || which >= 0 && which < registers;
-            return hasCase && s >= 0 && s < states && letter >= 0 && letter < LETTERS;
+            boolean has = hasCase && s >= 0 && s < states && letter >= 0 && letter < LETTERS;
+            return has ? (s * LETTERS + letter) * CASES + which : NONE;
         }
 
         boolean canKeep(int register) {
             return register == NONE || register >= 0 && register < registers;
         }
 
-        int nextState(int s, int letter, int which) {
-            return hasStep(s, letter, which) ? next[(s * LETTERS + letter) * CASES + which] : 0;
-        }
-
-        int keptIn(int s, int letter, int which) {
-            return hasStep(s, letter, which) ? keep[(s * LETTERS + letter) * CASES + which] : NONE;
-        }
-
-        void setStep(int s, int letter, int which, int to, int register) {
-            if (hasStep(s, letter, which)) {
-                int at = (s * LETTERS + letter) * CASES + which;
+        void setStep(int at, int to, int register) {
+            if (at >= 0 && at < next.length) {
                 next[at] = to;
                 keep[at] = register;
                 orbitsKnown = false;
@@ -717,17 +718,17 @@ public final class NameRows {
             int t = pairs[i] % STATES;
             for (int letter = 0; letter < LETTERS; letter++) {
                 for (int which = 0; which < CASES; which++) {
-                    if (!made.hasStep(i, letter, which)) {
+                    int at = made.stepAt(i, letter, which);
+                    int atA = a.stepAt(s, letter, a.registers > 0 ? which : OTHER_CASE);
+                    int atB = b.stepAt(t, letter, b.registers > 0 ? which : OTHER_CASE);
+                    if (at < 0 || atA < 0 || atB < 0) {
                         continue;
                     }
-                    int whichA = a.registers > 0 ? which : OTHER_CASE;
-                    int whichB = b.registers > 0 ? which : OTHER_CASE;
-                    int to = numberOf(a.nextState(s, letter, whichA) * STATES + b.nextState(t, letter, whichB));
+                    int to = numberOf(a.next[atA] * STATES + b.next[atB]);
                     if (to < 0) {
                         return false;
                     }
-                    int keep = b.registers > 0 ? b.keptIn(t, letter, whichB) : a.keptIn(s, letter, whichA);
-                    made.setStep(i, letter, which, to, keep);
+                    made.setStep(at, to, b.registers > 0 ? b.keep[atB] : a.keep[atA]);
                 }
             }
             return true;
@@ -777,13 +778,19 @@ public final class NameRows {
 
         void go(Machine m, int letter, int name) {
             lastCase = caseOf(name);
-            int register = m.keptIn(state, letter, lastCase);
-            state = m.nextState(state, letter, lastCase);
+            int at = m.stepAt(state, letter, lastCase);
+            if (at >= 0) {
+                keepIn(m.keep[at], name);
+                state = m.next[at];
+            }
+            gone++;
+        }
+
+        private void keepIn(int register, int name) {
             if (register >= 0 && register < REGISTERS) {
                 held[register] = name;
                 keptAt[register] = gone;
             }
-            gone++;
         }
 
         private int caseOf(int name) {
@@ -884,7 +891,7 @@ public final class NameRows {
         /** Four registers that are empty or share names stand in 52 ways. */
         static final int ORBITS = STATES * STATES * 52;
         /** The label of register r, 0 (empty) or 1 up to r + 1, is one digit of an orbit's code. */
-        private static final int CODES = STATES * STATES * 2 * 3 * 4 * 5;
+        private static final int HELD_CODES = 2 * 3 * 4 * 5, CODES = STATES * STATES * HELD_CODES;
         private static final int NEW_LABEL = HELD + 1;
         /** How many orbits a machine has at the most, alone. */
         private static final int ALONE = STATES * 5;
@@ -897,8 +904,12 @@ public final class NameRows {
         private int met = 0;
 
         /** The orbit that is looked at: the states, and a label for each name in a register. */
-        private int state1 = 0, state2 = 0;
+        private int state1 = 0, state2 = 0, heldCode = 0;
         private final int[] labels = new int[HELD];
+        /** Of each name that may come: its label (0: no such way), the cases of both machines. */
+        private final int[] wayLabels = new int[NAME_WAYS];
+        private final int[] cases1 = new int[NAME_WAYS];
+        private final int[] cases2 = new int[NAME_WAYS];
 
         private final int[] newLabels = new int[HELD];
         private final int[] digits = new int[HELD];
@@ -957,29 +968,34 @@ public final class NameRows {
 
         private void lookAt(int i) {
             int code = codes[i];
+            heldCode = code % HELD_CODES;
             for (int r = HELD - 1; r >= 0; r--) {
                 labels[r] = code % (r + 2);
                 code = code / (r + 2);
             }
             state1 = code / STATES;
             state2 = code % STATES;
+            for (int way = 0; way < NAME_WAYS; way++) {
+                wayLabels[way] = labelOf(way);
+                cases1[way] = caseOf(wayLabels[way], 0);
+                cases2[way] = caseOf(wayLabels[way], REGISTERS);
+            }
         }
 
         /** The code of the orbit behind a way from the one that is looked at; NONE: no such way. */
         private int codeBehind(Machine one, Machine other, int way) {
-            int label = labelOf(way % NAME_WAYS);
-            if (label == 0) {
+            int nameWay = way % NAME_WAYS;
+            int letter = way / NAME_WAYS;
+            if (nameWay < 0 || wayLabels[nameWay] == 0) {
                 return NONE;
             }
-            int letter = way / NAME_WAYS;
-            int case1 = caseOf(label, 0);
-            int case2 = caseOf(label, REGISTERS);
-            System.arraycopy(labels, 0, newLabels, 0, HELD);
-            keep(label, 0, one.keptIn(state1, letter, case1));
-            keep(label, REGISTERS, other.keptIn(state2, letter, case2));
-            int to1 = one.nextState(state1, letter, case1);
-            int to2 = other.nextState(state2, letter, case2);
-            return codeOf(to1 * STATES + to2);
+            int at1 = one.stepAt(state1, letter, cases1[nameWay]);
+            int at2 = other.stepAt(state2, letter, cases2[nameWay]);
+            if (at1 < 0 || at2 < 0) {
+                return NONE;
+            }
+            int states = one.next[at1] * STATES + other.next[at2];
+            return states * HELD_CODES + heldBehind(wayLabels[nameWay], one.keep[at1], other.keep[at2]);
         }
 
         /** The label of the name that comes; 0 if the register is empty or an earlier one has it. */
@@ -1004,15 +1020,15 @@ public final class NameRows {
             return OTHER_CASE;
         }
 
-        private void keep(int label, int base, int register) {
-            if (register >= 0 && register < REGISTERS) {
-                newLabels[base + register] = label;
-            }
-        }
-
         /** Labels are numbered as they come first, so that a renaming has the same code. */
-        private int codeOf(int states) {
-            int code = states;
+        private int heldBehind(int label, int register1, int register2) {
+            if (register1 == NONE && register2 == NONE) {
+                return heldCode;
+            }
+            System.arraycopy(labels, 0, newLabels, 0, HELD);
+            keep(label, 0, register1);
+            keep(label, REGISTERS, register2);
+            int code = 0;
             int used = 0;
             for (int r = 0; r < HELD; r++) {
                 int digit = digitOfEarlier(r);
@@ -1024,6 +1040,12 @@ public final class NameRows {
                 code = code * (r + 2) + digit;
             }
             return code;
+        }
+
+        private void keep(int label, int base, int register) {
+            if (register >= 0 && register < REGISTERS) {
+                newLabels[base + register] = label;
+            }
         }
 
         /** 0 for an empty register; NONE if no earlier one has the name. */

@@ -144,7 +144,12 @@ public final class SheetTest {
         Due.due("count(-1)", x.count(-1), BAD);
         Due.due("count(5)", x.count(5), BAD);
         x.place(0, 0);
-        for (int m = 0; m < 4; m++) {
+        x.machine(1, 0);
+        Due.due("count(4)", x.count(4), 1);
+        x.turned(0);
+        Due.due("count(4) of one more", x.count(4), 2);
+        x.drop();
+        for (int m = 1; m < 4; m++) {
             x.machine(m + 1, m % 3);
         }
         Due.due("count(0)", x.count(0), 1);
