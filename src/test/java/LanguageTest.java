@@ -22,7 +22,16 @@ public final class LanguageTest {
         }
         Due.due("classes, some twelve", Math.max(Pattern.compile("\\bclass\\b").matcher(text).results().count(), 12), 12);
         checkMethods(text.lines().toList());
+        checkRoom(text);
         Due.end();
+    }
+
+    /** All calls share one room, so objects and arrays come from fields' first values and constructors alone. */
+    private static void checkRoom(String text) {
+        String constructors = "(?ms)^( {4}| {8})(public )?[A-Z]\\w*\\([^)]*\\) \\{$.*?^\\1\\}$";
+        String firstValues = "(?m)^ +(private )?final [\\w\\[\\]]+ \\w+ = new .*;$";
+        Matcher made = Pattern.compile(".*\\bnew\\b.*").matcher(text.replaceAll(constructors, "").replaceAll(firstValues, ""));
+        Due.due("made by a call: " + (made.find() ? made.group() : ""), made.reset().find() ? 1 : 0, 0);
     }
 
     private static void checkMethods(List<String> lines) {
